@@ -5,8 +5,8 @@ import java.util.NoSuchElementException;
  * what others do, patterns, the least automaton of a set of keys, and a text with its sorted
  * suffixes that is edited and taken back.
  *
- * <p>Characters are kept as ints in rows that are made once, with the object, and used again:
- * no call but view() makes anything.
+ * <p>Rows are made once, with the object, and used again: of the calls only view() makes anything
+ * that is kept, so that a long run stays small.
  */
 public final class KeyHall {
     public static final int NONE = -1;

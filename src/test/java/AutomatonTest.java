@@ -37,6 +37,9 @@ public final class AutomatonTest {
         run = new Run("a FINAL state is none that is not FINAL");
         run.putAll(0, "ax", "bx", "b");
         counts(run, 0, 4, 4, 2);
+        run = new Run("as many ends, and as long ones, but not the same");
+        run.putAll(0, "a", "axy", "bx", "bxy");
+        counts(run, 0, 6, 6, 3);
     }
 
     private static void smallSets() {

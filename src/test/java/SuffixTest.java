@@ -63,6 +63,10 @@ public final class SuffixTest {
         run.due("b", "locate(1)", 0);
         run.due("undo()", 2);
         run.due("b", "locate(1)", 1);
+        run.due("a", "insert(0)", 3);
+        suffixes(run, new int[] {0, 1, 2}, new int[] {0, 1, 0});
+        run.due("delete(2, 3)", 2);
+        suffixes(run, new int[] {1, 0}, new int[] {0, 1});
     }
 
     private static void outermostCharacters() {

@@ -64,6 +64,12 @@ public final class ViewTest {
         run.due("size(1)", 0);
         run.due("bx", "put(3, 8)", 2);
         run.due("bx", "get(2)", 8);
+        run.due("a", "remove(2)", 3);
+        run.keysAre(3, "bx");
+        run.due("b", "put(2, 4)", -1);
+        run.due("c", "put(2, 5)", -1);
+        run.keysAre(3, "b", "bx");
+        run.keysAre(4, "bx", "b");
     }
 
     private static void turnedRound() {
