@@ -1,18 +1,21 @@
 import java.lang.reflect.InvocationTargetException;
 import java.lang.reflect.Method;
+import java.util.HashMap;
+import java.util.Map;
 
 /** Makes a call that is written as a text, on any object that has the face of KeyHall. */
 final class Face {
+    private static final Map<Class<?>, Map<String, Method>> METHODS = new HashMap<>();
+
     private Face() {
     }
 
     /** The answer of a call such as "put(0, 7)": a number, true, false, or throws.TheException. */
     static String answer(Object object, String call) {
         int open = call.indexOf('(');
-        String name = call.substring(0, open);
         String inside = call.substring(open + 1, call.length() - 1);
         String[] words = inside.isEmpty() ? new String[0] : inside.split(", ");
-        Method method = methodNamed(object.getClass(), name);
+        Method method = methodNamed(object.getClass(), call.substring(0, open));
         Class<?>[] types = method.getParameterTypes();
         Object[] arguments = new Object[words.length];
         for (int i = 0; i < words.length; i++) {
@@ -28,12 +31,19 @@ final class Face {
     }
 
     private static Method methodNamed(Class<?> type, String name) {
-        for (Method method : type.getDeclaredMethods()) {
-            if (method.getName().equals(name)) {
-                return method;
-            }
+        Method method = METHODS.computeIfAbsent(type, Face::methodsOf).get(name);
+        if (method == null) {
+            throw new AssertionError(type + " has no " + name);
         }
-        throw new AssertionError(type + " has no " + name);
+        return method;
+    }
+
+    private static Map<String, Method> methodsOf(Class<?> type) {
+        Map<String, Method> methods = new HashMap<>();
+        for (Method method : type.getDeclaredMethods()) {
+            methods.put(method.getName(), method);
+        }
+        return methods;
     }
 
     private static Object argument(Class<?> type, String word) {

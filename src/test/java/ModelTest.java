@@ -6,7 +6,6 @@ import java.util.Random;
 /** Long runs of calls, the same ones each time, on KeyHall and on the model; all promises. */
 public final class ModelTest {
     private static final int RUNS = 2000;
-    private static final int CALLS = 512;
     /** Few characters, so that texts meet; and some whose halves and bits are at their ends. */
     private static final String[] ALPHABETS = {
         "ab", "abc?", "\0\1\u00ff\u0100\u0101\uff00\uffff", "abcdefghijklmnopqrstuvwxyz", "a"
@@ -59,19 +58,25 @@ public final class ModelTest {
 
     /** Whether an answer differs; then the run up to it is printed. */
     private boolean differs(int run) {
-        while (calls.size() < CALLS) {
+        while (calls.size() < Run.MOST_CALLS) {
             for (String call : chosen()) {
-                calls.add(call);
-                String got = Face.answer(hall, call);
-                String want = Face.answer(model, call);
-                if (!got.equals(want)) {
-                    System.out.println("run " + run + ": " + String.join(" ", calls)
-                            + " answered " + got + ", due is " + want);
+                if (calls.size() < Run.MOST_CALLS && differs(run, call)) {
                     return true;
                 }
             }
         }
         return false;
+    }
+
+    private boolean differs(int run, String call) {
+        calls.add(call);
+        String got = Face.answer(hall, call);
+        String want = Face.answer(model, call);
+        if (!got.equals(want)) {
+            System.out.println("run " + run + ": " + String.join(" ", calls)
+                    + " answered " + got + ", due is " + want);
+        }
+        return !got.equals(want);
     }
 
     /** A call, and for most of those that use the tape a text typed ahead of it. */

