@@ -13,6 +13,7 @@ public final class AutomatonBoundsTest {
         ofOneKeyOfEight();
         sameTextsLeadToKeys();
         sameTextsButFinal();
+        asManyTextsButOthers();
         ofAFullMap();
         ofAFullMapOfEight();
         ofAFullMapThatIsFolded();
@@ -135,6 +136,17 @@ public final class AutomatonBoundsTest {
         run.putAll(0, "a");
         run.due("freeze(0)", 3);
         counts(run, 3, 3, 2);
+    }
+
+    private static void asManyTextsButOthers() {
+        Run run = new Run("those being one state behind which the same texts lead to keys");
+        run.putAll(0, "a", "axy", "bx", "bxy");
+        run.due("freeze(0)", 6);
+        counts(run, 6, 6, 3);
+        run = new Run("those being one state behind which the same texts lead to keys");
+        run.putAll(0, "a\0", "a\0\0", "b\0\0", "b");
+        run.due("freeze(0)", 6);
+        counts(run, 6, 6, 3);
     }
 
     private static void ofAFullMap() {

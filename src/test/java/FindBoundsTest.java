@@ -195,7 +195,9 @@ public final class FindBoundsTest {
         Run run = new Run("The value of a key of a view, by the tape's text t");
         run.fill(0);
         run.due("find(0, 4)", 0);
+        run.foundIs("\u03e8");
         run.due("find(0, 5)", 63);
+        run.foundIs("\u0427");
         for (int i = 0; i < 64; i += 3) {
             String key = String.valueOf((char) (1000 + i));
             run.due(key, "find(0, 0)", i);
@@ -401,9 +403,12 @@ public final class FindBoundsTest {
 
     private static void othersLeaveFound() {
         Run run = new Run("(others leave it)");
-        run.putAll(0, "f", "g", "h");
+        run.putAll(0, "f", "g", "h", "k");
         run.due("g", "find(0, 0)", 1);
+        run.due("k", "remove(0)", 3);
+        run.foundIs("g");
         run.due("g", "remove(0)", 1);
+        run.foundIs("g");
         run.due("i", "put(0, 4)", -1);
         run.due("f", "get(0)", 0);
         run.due("size(0)", 3);

@@ -33,6 +33,7 @@ public final class TextBoundsTest {
         twentyOneEdits();
         twentyDeletes();
         twentyEditsOfNothing();
+        twentyEditsToNothing();
         fiveRoundsOfTwenty();
         twentyAgain();
         undoneAreNotAmongTheTwenty();
@@ -382,6 +383,16 @@ public final class TextBoundsTest {
         }
         run.due("undo()", -1);
         run.textIs("ab");
+    }
+
+    private static void twentyEditsToNothing() {
+        Run run = new Run("the latest first, at most the latest 20");
+        insertOneByOne(run, 0, 20);
+        run.due("delete(0, 20)", 0);
+        run.due("undo()", 20);
+        undoOneByOne(run, 19, 1);
+        run.due("undo()", -1);
+        run.textIs("a");
     }
 
     private static void fiveRoundsOfTwenty() {

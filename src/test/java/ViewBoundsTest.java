@@ -27,6 +27,7 @@ public final class ViewBoundsTest {
         partsThatMeetInOneKey();
         liveWhenEmpty();
         liveWhenFull();
+        liveAtItsEnds();
         oddNumberOfTimes();
         ownOrder();
         lessIsByOrder();
@@ -302,6 +303,24 @@ public final class ViewBoundsTest {
         run.due("at(3, 0)", 9);
         run.due("b", "put(4, 9)", Run.BAD_STATE);
         run.due("size(0)", 64);
+    }
+
+    private static void liveAtItsEnds() {
+        Run run = new Run("they are live: what is put into or removed from a map is so in all its"
+                + " views");
+        run.putAll(0, "a", "b", "cc", "d", "e");
+        run.due("c", "view(0, 0)", 3);
+        run.keysAre(3, "cc");
+        run.due("a", "remove(0)", 0);
+        run.keysAre(3, "cc");
+        run.due("poll(0, false)", 1);
+        run.due("poll(0, true)", 4);
+        run.keysAre(3, "cc");
+        run.due("c", "put(0, 9)", -1);
+        run.due("cd", "put(0, 9)", -1);
+        run.keysAre(3, "c", "cc", "cd");
+        run.due("b", "put(0, 9)", -1);
+        run.keysAre(3, "c", "cc", "cd");
     }
 
     private static void oddNumberOfTimes() {
