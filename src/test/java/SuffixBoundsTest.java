@@ -1,3 +1,7 @@
+import java.util.ArrayList;
+import java.util.Collections;
+import java.util.List;
+
 /**
  * The boundary cases that the document names for SUFFIXES and promises 23 and 24. Each run has the
  * document's words as its title.
@@ -14,6 +18,7 @@ public final class SuffixBoundsTest {
         alikeInAFullText();
         differentInAFullText();
         repeatedInAFullText();
+        mixedInAFullText();
         sharedOfTheFirst();
         sharedWithTheOneBefore();
         noSuchSuffix();
@@ -130,6 +135,26 @@ public final class SuffixBoundsTest {
                 run.due("suffix(" + k + ", 0)", 8 * (14 - i) + letter);
                 run.due("suffix(" + k + ", 1)", i == 0 ? 0 : 8 * i - letter);
             }
+        }
+    }
+
+    /** By the library's own order of texts, which is ORDER. */
+    private static void mixedInAFullText() {
+        for (String eight : new String[] {"banbanan", "cabcbaab", "\uffff\0\uffff\uffff\0\0\uffff\0"}) {
+            Run run = new Run("that of all of it to that of its last character, are numbered by"
+                    + " ORDER");
+            run.fillText(eight);
+            run.due("delete(100, 101)", 119);
+            String text = eight.repeat(15).substring(0, 100) + eight.repeat(15).substring(101);
+            List<String> sorted = new ArrayList<>();
+            for (int i = 0; i < 119; i++) {
+                sorted.add(text.substring(i));
+            }
+            Collections.sort(sorted);
+            for (int k = 0; k < 119; k++) {
+                run.due("suffix(" + k + ", 0)", 119 - sorted.get(k).length());
+            }
+            run.due("suffix(119, 0)", -1);
         }
     }
 
