@@ -488,7 +488,7 @@ public final class KeyHall {
         final Key bound;
         final boolean turned;
         final Walker walker;
-        /** Where the view's keys begin in the map, and where they have ended, when last measured. */
+        /** Where the view's keys begin in the map, and where they ended, when last measured. */
         int from;
         int to;
 
@@ -981,7 +981,7 @@ public final class KeyHall {
         }
     }
 
-    /** What a text was ahead of its latest edits, in a ring: the newest one takes the oldest's row. */
+    /** What a text was ahead of its latest edits, in a ring: the newest takes the oldest's row. */
     private static final class History {
         final int[] letters;
         final int[] lengths;
@@ -1021,7 +1021,7 @@ public final class KeyHall {
             ranks = new int[LONGEST_TEXT + 1];
         }
 
-        /** From the shortest suffix on, so that what is behind a first character is sorted already. */
+        /** From the shortest suffix on: what is behind a first character is sorted already. */
         void sort(int[] letters, int length) {
             // The empty rest behind the last character is before all suffixes.
             ranks[length] = NONE;
